@@ -158,7 +158,7 @@ public final class LetterWeave {
     }
 
     private boolean isShown(int c, int letter) {
-        return (shownIn[letter] & 1 << c) != 0;
+        return (shownIn[letter] & (1 << c)) != 0;
     }
 
     private boolean isIn(int c, int change) {

@@ -6,6 +6,7 @@ public final class InsertTest {
         standsBehindTheLetterBeforeIt();
         badNumbers();
         atMostFourHundred();
+        everyCallMayMakeAChange();
         Check.end();
     }
 
@@ -78,5 +79,20 @@ public final class InsertTest {
         Check.due("all come to another COPY", x.merge(3, 1), 400);
         Check.due("which may make its own still", x.insert(1, 400, 97), 0);
         Check.due("name of that", x.name(1, 400), 4 * 401 + 1);
+    }
+
+    private static void everyCallMayMakeAChange() {
+        LetterWeave x = new LetterWeave();
+        for (int call = 0; call < 512; call++) {
+            int c = call % 4;
+            Check.due("insert as call " + call, x.insert(c, call / 4, c), call / 4);
+        }
+        // Later answers are free, but no call may fail by itself.
+        for (int c = 0; c < 4; c++) {
+            int copy = c;
+            Check.refused("a CHANGE behind call 512", () -> x.insert(copy, 0, 97));
+            Check.refused("a taking away behind call 512", () -> x.remove(copy, 0));
+            Check.fine("a merge behind call 512", () -> x.merge(copy, 0));
+        }
     }
 }
