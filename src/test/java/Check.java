@@ -1,5 +1,9 @@
 /** What the tests share: each wrong answer is printed, and a test that had one ends with exit code 1. */
 final class Check {
+    /** Numbers that are no COPY, from those next to the range to the ends of int. */
+    static final int[] NO_COPIES = {-1, 4, 5, 256, Integer.MIN_VALUE, Integer.MAX_VALUE};
+
+    private static String sentence = "";
     private static int wrong = 0;
 
     private Check() {
@@ -7,6 +11,11 @@ final class Check {
 
     interface Call {
         void run();
+    }
+
+    /** The document's words that the answers from here on hold it to. */
+    static void sentence(String words) {
+        sentence = words;
     }
 
     static void due(String call, long got, long want) {
@@ -22,15 +31,15 @@ final class Check {
     }
 
     static void bad(String call, Call run) {
-        due(call, outcome(run), "IllegalArgumentException");
+        due(call + " throws", outcome(run), "IllegalArgumentException");
     }
 
     static void refused(String call, Call run) {
-        due(call, outcome(run), "IllegalStateException");
+        due(call + " throws", outcome(run), "IllegalStateException");
     }
 
     static void fine(String call, Call run) {
-        due(call, outcome(run), "nothing");
+        due(call + " throws", outcome(run), "nothing");
     }
 
     static String outcome(Call run) {
@@ -44,7 +53,7 @@ final class Check {
 
     static void fault(String text) {
         wrong++;
-        System.out.println(text);
+        System.out.println("'" + sentence + "': " + text);
     }
 
     static void end() {
@@ -55,33 +64,30 @@ final class Check {
     }
 
     /** Puts each character of a text behind the end of a COPY's TEXT. */
-    static void write(LetterWeave x, int c, String text) {
+    static void write(Counted x, int c, String text) {
+        int at = x.length(c);
         for (char letter : text.toCharArray()) {
-            x.insert(c, x.length(c), letter);
+            x.insert(c, at, letter);
+            at++;
         }
     }
 
-    static String text(LetterWeave x, int c) {
+    static String text(Counted x, int c) {
         StringBuilder text = new StringBuilder();
-        for (int at = 0; at < x.length(c); at++) {
+        int length = x.length(c);
+        for (int at = 0; at < length; at++) {
             text.append((char) x.letter(c, at));
         }
         return text.toString();
     }
 
-    /** All that the face tells of an object, to see that a refused call changed nothing. */
-    static String state(LetterWeave x) {
-        StringBuilder state = new StringBuilder();
-        for (int c = 0; c < 4; c++) {
-            state.append(c).append(':').append(x.length(c));
-            for (int at = 0; x.letter(c, at) != -1; at++) {
-                state.append(' ').append(x.letter(c, at)).append('/').append(x.name(c, at));
-            }
-            for (int of = 0; of < 4; of++) {
-                state.append(" of").append(of).append('=').append(x.has(c, of));
-            }
-            state.append('\n');
-        }
-        return state.toString();
+    static void textDue(Counted x, int c, String want) {
+        due("TEXT of COPY " + c, text(x, c), want);
+    }
+
+    /** The n of the LETTER that a COPY makes next. */
+    static int nextN(Counted x, int c) {
+        x.insert(c, 0, '!');
+        return x.name(c, 0) / 4;
     }
 }

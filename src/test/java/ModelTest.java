@@ -3,10 +3,9 @@ import java.util.Random;
 /** Long runs of calls with fixed seeds: each answer is the one of the model. */
 public final class ModelTest {
     private static final int RUNS = 400;
-    // What an object answers behind its 512th call is free.
-    private static final int LIFE = 512;
 
     public static void main(String[] args) {
+        Check.sentence("promises 1 to 9");
         for (int seed = 0; seed < RUNS; seed++) {
             new ModelTest(seed).run();
         }
@@ -15,9 +14,8 @@ public final class ModelTest {
 
     private final int seed;
     private final Random random;
-    private final LetterWeave x = new LetterWeave();
+    private final Counted x = new Counted();
     private final Model model = new Model();
-    private int callsLeft = LIFE;
 
     private ModelTest(int seed) {
         this.seed = seed;
@@ -26,10 +24,10 @@ public final class ModelTest {
 
     private void run() {
         // A long run is all changes; a short one leaves calls to read what has become of the COPIES.
-        int end = seed % 20 == 0 ? 0 : LIFE - 120;
+        int end = seed % 20 == 0 ? 0 : Counted.LIFE - 120;
         // Runs with few merges let the COPIES drift apart.
         int mergeShare = 1 + seed % 12;
-        while (callsLeft > end) {
+        while (x.callsLeft() > end) {
             if (random.nextInt(60) < mergeShare) {
                 merge(copy(), copy());
             } else {
@@ -101,10 +99,10 @@ public final class ModelTest {
 
     private void readAll(int c) {
         int length = model.length(c);
-        for (int of = 0; of < 4 && callsLeft > 0; of++) {
+        for (int of = 0; of < 4 && x.callsLeft() > 0; of++) {
             same("has", c, of);
         }
-        for (int at = 0; at <= length && callsLeft > 1; at++) {
+        for (int at = 0; at <= length && x.callsLeft() > 1; at++) {
             same("letter", c, at);
             same("name", c, at);
         }
@@ -115,7 +113,6 @@ public final class ModelTest {
     }
 
     private int answer(Answer call) {
-        callsLeft--;
         try {
             return call.get();
         } catch (IllegalArgumentException e) {

@@ -1,84 +1,95 @@
 /** Promise 3: remove. */
 public final class RemoveTest {
     public static void main(String[] args) {
-        takesAway();
-        isForGood();
-        keepsPlaceForOthers();
-        badNumbers();
-        atMostFourHundred();
+        everyPlaceOfAText();
+        placesOfAnEmptyText();
+        placesOutsideTheText();
+        placesOfATextEmptyAgain();
+        answersTheNumber();
+        onlyThatCopy();
         Check.end();
     }
 
-    private static void takesAway() {
-        LetterWeave x = new LetterWeave();
-        Check.write(x, 0, "abcd");
-        Check.due("remove in the middle", x.remove(0, 1), 4);
-        Check.due("text", Check.text(x, 0), "acd");
-        Check.due("remove at the end", x.remove(0, 2), 5);
-        Check.due("text", Check.text(x, 0), "ac");
-        Check.due("remove in front", x.remove(0, 0), 6);
-        Check.due("text", Check.text(x, 0), "c");
-        Check.due("remove the last one", x.remove(0, 0), 7);
-        Check.due("text", Check.text(x, 0), "");
-    }
-
-    private static void isForGood() {
-        LetterWeave x = new LetterWeave();
-        Check.write(x, 0, "ab");
-        x.merge(0, 1);
-        x.remove(0, 0);
-        Check.due("only in the COPY that took it", Check.text(x, 1), "ab");
-        Check.due("nothing new from a COPY that has it", x.merge(1, 0), 0);
-        Check.due("gone still", Check.text(x, 0), "b");
-        x.remove(1, 0);
-        Check.due("the other's taking away is a CHANGE", x.merge(1, 0), 1);
-        Check.due("taken away by two is one LETTER less", Check.text(x, 0), "b");
-        Check.due("length", x.length(0), 1);
-        Check.due("both ways", x.merge(0, 1), 1);
-        Check.due("length", x.length(1), 1);
-    }
-
-    private static void keepsPlaceForOthers() {
-        LetterWeave x = new LetterWeave();
-        Check.write(x, 0, "abc");
-        x.merge(0, 1);
-        x.remove(0, 1);
-        Check.write(x, 0, "d");
-        x.insert(1, 2, 'x');
-        x.merge(0, 1);
-        x.merge(1, 0);
-        Check.due("behind a LETTER taken away", Check.text(x, 0), "axcd");
-        Check.due("the same in both", Check.text(x, 1), "axcd");
-    }
-
-    private static void badNumbers() {
-        LetterWeave x = new LetterWeave();
-        Check.bad("remove(0, 0) of nothing", () -> x.remove(0, 0));
-        Check.write(x, 0, "abc");
-        x.remove(0, 1);
-        String before = Check.state(x);
-        Check.bad("remove(-1, 0)", () -> x.remove(-1, 0));
-        Check.bad("remove(4, 0)", () -> x.remove(4, 0));
-        Check.bad("remove(0, -1)", () -> x.remove(0, -1));
-        Check.bad("remove(0, 2)", () -> x.remove(0, 2));
-        Check.bad("remove(1, 0)", () -> x.remove(1, 0));
-        Check.bad("remove at the greatest int", () -> x.remove(0, Integer.MAX_VALUE));
-        Check.bad("remove at the least int", () -> x.remove(0, Integer.MIN_VALUE));
-        Check.due("state behind bad calls", Check.state(x), before);
-        Check.due("the next CHANGE", x.remove(0, 0), 4);
-    }
-
-    private static void atMostFourHundred() {
-        LetterWeave x = new LetterWeave();
-        for (int k = 0; k < 398; k++) {
-            x.insert(0, 0, 97);
+    private static void everyPlaceOfAText() {
+        Check.sentence("COPY c takes LETTER at of its TEXT away.");
+        for (int at = 0; at < 5; at++) {
+            Counted x = new Counted();
+            Check.write(x, 1, "abcde");
+            x.remove(1, at);
+            Check.textDue(x, 1, "abcde".substring(0, at) + "abcde".substring(at + 1));
+            x.insert(1, at, '!');
+            x.remove(1, at);
+            Check.textDue(x, 1, "abcde".substring(0, at) + "abcde".substring(at + 1));
         }
-        Check.due("the 399th CHANGE", x.remove(0, 397), 398);
-        Check.due("the 400th CHANGE", x.remove(0, 0), 399);
-        Check.refused("the 401st CHANGE", () -> x.remove(0, 0));
-        Check.refused("the 401st CHANGE by insert", () -> x.insert(0, 0, 97));
-        Check.bad("the 401st CHANGE with a bad place", () -> x.remove(0, 396));
-        Check.due("length behind the refused one", x.length(0), 396);
-        Check.due("has behind the refused one", x.has(0, 0), 400);
+    }
+
+    private static void placesOfAnEmptyText() {
+        Check.sentence("COPY c takes LETTER at of its TEXT away.");
+        Still empty = new Still(Steps.none());
+        for (int c = 0; c < 4; c++) {
+            int copy = c;
+            empty.bad("remove(" + c + ", 0)", x -> x.remove(copy, 0));
+            empty.bad("remove(" + c + ", -1)", x -> x.remove(copy, -1));
+        }
+        Still other = new Still(Steps.letters(0, 2));
+        other.bad("remove(1, 0) of an empty TEXT beside another", x -> x.remove(1, 0));
+    }
+
+    private static void placesOutsideTheText() {
+        Check.sentence("COPY c takes LETTER at of its TEXT away.");
+        Steps several = Steps.several();
+        Still still = new Still(several);
+        for (int c = 0; c < 4; c++) {
+            int copy = c;
+            Counted x = new Counted();
+            several.on(x);
+            int length = x.length(c);
+            int[] outside = {-1, length, length + 1, 400, 512, Integer.MIN_VALUE, Integer.MAX_VALUE};
+            for (int at : outside) {
+                still.bad("remove(" + c + ", " + at + ")", y -> y.remove(copy, at));
+            }
+            Check.fine("remove(" + c + ", " + (length - 1) + ")", () -> x.remove(copy, length - 1));
+            Check.fine("remove(" + c + ", 0)", () -> x.remove(copy, 0));
+            Check.due("length(" + c + ")", x.length(c), length - 2);
+        }
+    }
+
+    private static void placesOfATextEmptyAgain() {
+        Check.sentence("COPY c takes LETTER at of its TEXT away.");
+        Still again = new Still(x -> {
+            x.insert(0, 0, 'a');
+            x.remove(0, 0);
+        });
+        again.bad("remove(0, 0)", x -> x.remove(0, 0));
+        again.bad("remove(0, 1)", x -> x.remove(0, 1));
+        again.bad("remove(0, -1)", x -> x.remove(0, -1));
+    }
+
+    private static void answersTheNumber() {
+        Check.sentence("Answers the CHANGE's number.");
+        Counted x = new Counted();
+        Check.write(x, 0, "abc");
+        Check.due("remove", x.remove(0, 1), 3);
+        Check.bad("remove(0, 2)", () -> x.remove(0, 2));
+        Check.due("remove behind a bad one", x.remove(0, 1), 4);
+        x.insert(0, 0, 'd');
+        Check.due("remove behind an insert", x.remove(0, 0), 6);
+        x.merge(0, 1);
+        Check.due("a first remove of what came", x.remove(1, 0), 0);
+        x.merge(1, 0);
+        Check.bad("remove(0, 0) of what another took away", () -> x.remove(0, 0));
+    }
+
+    private static void onlyThatCopy() {
+        Check.sentence("COPY c takes LETTER at of its TEXT away.");
+        Steps several = Steps.several();
+        for (int c = 0; c < 4; c++) {
+            int copy = c;
+            Steps more = several.then(x -> x.remove(copy, 0));
+            for (int other = 0; other < 4; other++) {
+                boolean same = Look.copy(more, other).equals(Look.copy(several, other));
+                Check.due("remove from COPY " + c + " leaves COPY " + other, "" + same, "" + (other != c));
+            }
+        }
     }
 }
