@@ -11,14 +11,12 @@ public final class FaceTest {
     private static final String BAD = "java.lang.IllegalArgumentException";
     private static final String BOTH = BAD + ",java.lang.IllegalStateException";
 
-    public static void main(String[] args) throws IllegalAccessException {
+    public static void main(String[] args) {
         Check.sentence("The public face");
         Check.due("the class's modifiers", Modifier.toString(LetterWeave.class.getModifiers()), "public final");
         Check.due("the class's methods", faceMethods().toString(), dueMethods().toString());
         constructors();
         noOtherMember();
-        Check.sentence("All memory is the class's own rows.");
-        ownRows();
         Check.end();
     }
 
@@ -61,26 +59,6 @@ public final class FaceTest {
         for (Method method : LetterWeave.class.getDeclaredMethods()) {
             if (!names.add(method.getName())) {
                 Check.fault("two methods with the name " + method.getName());
-            }
-        }
-    }
-
-    private static void ownRows() throws IllegalAccessException {
-        LetterWeave one = new LetterWeave();
-        LetterWeave other = new LetterWeave();
-        for (Field field : LetterWeave.class.getDeclaredFields()) {
-            if (!Modifier.isStatic(field.getModifiers()) && field.getType().isArray()) {
-                field.setAccessible(true);
-                if (!Modifier.isFinal(field.getModifiers())) {
-                    Check.fault("a row that is not made once in the constructor: " + field);
-                }
-                if (field.get(one) == field.get(other)) {
-                    Check.fault("two objects share the row " + field);
-                }
-            } else if (!field.getType().isPrimitive()) {
-                Check.fault("a field that is neither a number nor a row: " + field);
-            } else if (Modifier.isStatic(field.getModifiers()) && !Modifier.isFinal(field.getModifiers())) {
-                Check.fault("a number that all objects share: " + field);
             }
         }
     }
