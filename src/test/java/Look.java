@@ -1,7 +1,7 @@
 /**
- * All that can be told of the object that some calls leave behind: what its COPIES show, and what
- * each further call would do. It makes the calls again on new objects, so that no object is used
- * for more than 512 calls.
+ * What can be told of the object that some calls leave behind: all that its COPIES show, and what
+ * further calls would do, at the ends of each TEXT and with the first few CHANGES and the last. It
+ * makes the calls again on new objects, so that no object is used for more than 512 calls.
  */
 final class Look {
     private static final int FEW = 6;
